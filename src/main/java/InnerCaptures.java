@@ -223,13 +223,12 @@ public final class InnerCaptures {
 
     public long constant(int type, int i) {
         Type owner = typeAt(type);
-        if (owner == null || !owner.fields.has(i) || !owner.fields.isStatic(i)) {
+        if (owner == null || !owner.fields.isStatic(i)) {
             outcome = BAD;
             return 0L;
         }
-        found.pointAt(owner.fields.values, i, false);
         outcome = DONE;
-        return found.read();
+        return owner.fields.values[i];
     }
 
     // ---- lambdas

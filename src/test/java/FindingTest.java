@@ -21,6 +21,8 @@ public final class FindingTest {
         unknown();
         putFields();
         putRefused();
+        twelveDeep();
+        twelveHigh();
         constant();
         why();
         due.end();
@@ -320,6 +322,36 @@ public final class FindingTest {
         due.is("nothing changed", x.see(0, 0), 1);
     }
 
+    private static void twelveDeep() {
+        InnerCaptures x = new InnerCaptures();
+        x.type(TOP, 0, 0);
+        x.field(0, 0, 5, false);
+        x.make(0, 0, 0);
+        for (int i = 1; i < 12; i++) {
+            x.type(INNER, i - 1, i);
+            x.make(i, (i - 1) % 8, i % 8);
+        }
+        due.isFound("eleven steps out", x.see(3, 0), x, 5, 0);
+        due.isFound("nowhere on the way", x.see(3, 1), x, 0, 8);
+        due.isFound("that, eleven steps out", x.that(3, 0, 7), x, 0, 0);
+        due.isFound("seen there", x.see(7, 0), x, 5, 0);
+    }
+
+    private static void twelveHigh() {
+        InnerCaptures x = new InnerCaptures();
+        for (int i = 0; i < 12; i++) {
+            x.type(TOP, 0, i);
+            x.parent(i, i - 1);
+        }
+        x.field(0, 7, 5, false);
+        due.is("a ring of twelve", x.parent(0, 11), -4);
+        x.make(11, 0, 0);
+        due.is("levels", x.about(0, 1), 12);
+        due.isFound("eleven steps up", x.see(0, 7), x, 5, 0);
+        due.isFound("put there", x.put(0, 7, 6), x, 0, 0);
+        due.isFound("seen there", x.see(0, 7), x, 6, 0);
+    }
+
     private static void constant() {
         InnerCaptures x = new InnerCaptures();
         due.isFound("no type", x.constant(0, 0), x, 0, BAD);
@@ -338,6 +370,10 @@ public final class FindingTest {
         x.make(0, 0, 0);
         x.put(0, 6, 61);
         due.isFound("as it was put", x.constant(0, 1), x, 61, 0);
+        x.field(0, 0, 70, true);
+        due.isFound("the last of four", x.constant(0, 3), x, 70, 0);
+        due.isFound("behind the last of four", x.constant(0, 4), x, 0, BAD);
+        due.isFound("a number far off", x.constant(0, Integer.MAX_VALUE), x, 0, BAD);
     }
 
     private static void why() {
