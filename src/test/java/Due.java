@@ -2,12 +2,18 @@
 final class Due {
     private int wrong = 0;
     private int asked = 0;
+    private String topic = "";
+
+    /** The promise and the sentence that the answers behind this call are about. */
+    void promise(int number, String sentence) {
+        topic = "promise " + number + " (" + sentence + "): ";
+    }
 
     void is(String call, long got, long want) {
         asked++;
         if (got != want) {
             wrong++;
-            System.out.println(call + " answered " + got + ", due is " + want);
+            System.out.println(topic + call + " answered " + got + ", due is " + want);
         }
     }
 
@@ -15,7 +21,7 @@ final class Due {
         asked++;
         if (!holds) {
             wrong++;
-            System.out.println("does not hold: " + what);
+            System.out.println(topic + "does not hold: " + what);
         }
     }
 

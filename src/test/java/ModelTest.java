@@ -1,18 +1,24 @@
+import java.util.ArrayList;
 import java.util.Arrays;
+import java.util.List;
 import java.util.TreeMap;
+import java.util.function.Consumer;
 
 /**
- * All promises over many runs of 512 calls each: every answer is that of the model, no call
- * throws, and calls that are refused change nothing. The numbers are the same in every run.
+ * All promises over many runs of 512 calls each, every second one being why(): every answer is
+ * that of the model, no call throws, and calls that are refused change nothing. The numbers are
+ * the same in every run.
  */
 public final class ModelTest {
-    private static final int RUNS = 4000, CALLS = 512;
+    private static final int RUNS = 8000, STEPS = 256;
+    /** Asking for a whole state takes long, so it is asked of some runs, and of their beginning. */
+    private static final int RUNS_PER_STATE = 40, STEPS_OF_STATE = 120;
     private static final String[] NAMES = {"type", "field", "local", "assign", "method", "parent",
         "name", "make", "share", "free", "about", "same", "see", "put", "that", "constant",
         "lambda", "seen", "why", "count"};
     /** How often each call comes, first while types are built and then when they stand. */
     private static final int[] BUILDING = {16, 12, 10, 1, 4, 8, 1, 14, 1, 0, 1, 0, 5, 2, 1, 1, 1, 1, 3, 1};
-    private static final int[] STANDING = {2, 5, 2, 1, 2, 2, 4, 30, 3, 1, 6, 3, 30, 12, 10, 4, 2, 12, 10, 3};
+    private static final int[] STANDING = {2, 5, 2, 1, 2, 2, 4, 30, 3, 1, 6, 3, 30, 12, 10, 4, 6, 16, 2, 3};
     private static final int[] WILD = {-1, -2, -3, -4, 8, 12, 26, 6, 4, 99, Integer.MAX_VALUE, Integer.MIN_VALUE};
 
     private static final Due due = new Due();
@@ -36,21 +42,28 @@ public final class ModelTest {
     private static void compare(int run) {
         InnerCaptures x = new InnerCaptures();
         Model model = new Model();
-        InnerCaptures accepted = new InnerCaptures();
+        List<Consumer<InnerCaptures>> all = new ArrayList<>();
+        List<Consumer<InnerCaptures>> accepted = new ArrayList<>();
         int building = 30 + below(80);
-        for (int i = 0; i < CALLS; i++) {
+        for (int i = 0; i < STEPS; i++) {
             String name = NAMES[pick(i < building ? BUILDING : STANDING)];
-            long[] args = args(name, x.count(0));
+            long[] args = args(name, (int) model.call("count", new long[5]));
             long want = model.call(name, args);
             long got = call(x, name, args);
-            due.is("run " + run + ", call " + i + ", " + name + Arrays.toString(args), got, want);
-            due.is("why() behind it", x.why(), model.call("why", args));
-            note(name, got, x.why());
-            if (!isRefused(name, got, x.why())) {
-                call(accepted, name, args);
+            int why = x.why();
+            due.is("run " + run + ", step " + i + ", " + name + Arrays.toString(args), got, want);
+            due.is("run " + run + ", step " + i + ", why()", why, model.call("why", args));
+            note(name, got, why);
+            if (i < STEPS_OF_STATE) {
+                all.add(y -> call(y, name, args));
+                if (!isRefused(name, got, why)) {
+                    accepted.add(y -> call(y, name, args));
+                }
             }
         }
-        compareState(run, x, accepted);
+        if (run % RUNS_PER_STATE == 0) {
+            compareStates(run, all, accepted);
+        }
     }
 
     private static int pick(int[] weights) {
@@ -137,23 +150,12 @@ public final class ModelTest {
     }
 
     /** What an object that had the accepted calls alone shows must be what this one shows. */
-    private static void compareState(int run, InnerCaptures x, InnerCaptures accepted) {
-        String where = "run " + run + ", refused calls changed something: ";
-        for (int what = 0; what < 4; what++) {
-            due.is(where + "count(" + what + ")", x.count(what), accepted.count(what));
-        }
-        for (int i = 0; i < 12; i++) {
-            for (int k = 0; k < 8; k++) {
-                due.is(where + "name", x.name(i, k), accepted.name(i, k));
-                due.is(where + "constant", x.constant(i, k), accepted.constant(i, k));
-                due.is(where + "see", x.see(i, k), accepted.see(i, k));
-                due.is(where + "why of see", x.why(), accepted.why());
-                due.is(where + "seen", x.seen(i, k), accepted.seen(i, k));
-                due.is(where + "why of seen", x.why(), accepted.why());
-                due.is(where + "about", x.about(i, k), accepted.about(i, k));
-                due.is(where + "same", x.same(i, k), accepted.same(i, k));
-            }
-        }
+    private static void compareStates(int run, List<Consumer<InnerCaptures>> all, List<Consumer<InnerCaptures>> accepted) {
+        List<String> shown = State.of(x -> all.forEach(call -> call.accept(x)));
+        List<String> wanted = State.of(x -> accepted.forEach(call -> call.accept(x)));
+        List<String> changed = new ArrayList<>(shown);
+        changed.removeAll(wanted);
+        due.isTrue("run " + run + ", refused calls change nothing, but then " + changed, shown.equals(wanted));
     }
 
     /** Runs that never reach an outcome would show nothing of it. */
