@@ -154,6 +154,11 @@ public final class ObjectBoundsTest {
         scene.refuses("of a top", x -> x.make(9, 0, 0), ALONE, ALONE);
         scene.refuses("of a top into a place that holds one", x -> x.make(9, 0, 7), ALONE, ALONE);
         scene.refuses("of an inner one", x -> x.make(10, 7, 0), ALONE, ALONE);
+        Scene cut = new Scene(due, "the outer type is STATIC, further out stands one", x -> {
+            Scene.villageIn(x);
+            x.parent(8, 4);
+        });
+        cut.refuses("what is AROUND ends at the STATIC one", x -> x.make(8, 5, 7), ALONE, ALONE);
         InnerCaptures x = strangers();
         due.isFound("of an inner one in a stranger", x.make(3, 2, 3), x, ALONE, ALONE);
         x.parent(2, 0);
