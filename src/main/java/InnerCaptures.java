@@ -284,6 +284,10 @@ public final class InnerCaptures {
         return number >= 0 && number < typeCount ? types[number] : null;
     }
 
+    private Lambda lambdaAt(int number) {
+        return number >= 0 && number < lambdaCount ? lambdas[number] : null;
+    }
+
     private static boolean isPlace(int number) {
         return number >= 0 && number < PLACE_LIMIT;
     }
@@ -334,7 +338,8 @@ public final class InnerCaptures {
 
     private boolean hasTopWith(int letter) {
         for (int i = 0; i < typeCount; i++) {
-            if (types[i].kind == TOP && types[i].letter == letter) {
+            Type t = types[i];
+            if (t != null && t.kind == TOP && t.letter == letter) {
                 return true;
             }
         }
@@ -344,7 +349,7 @@ public final class InnerCaptures {
     private boolean hasMemberWith(Type outer, int letter) {
         for (int i = 0; i < typeCount; i++) {
             Type t = types[i];
-            if (isMember(t.kind) && t.outer == outer && t.letter == letter) {
+            if (t != null && isMember(t.kind) && t.outer == outer && t.letter == letter) {
                 return true;
             }
         }
@@ -363,7 +368,7 @@ public final class InnerCaptures {
         int number = 1;
         for (int i = 0; i < typeCount; i++) {
             Type t = types[i];
-            if (standsInMethod(t.kind) && t.outer == outer && t.letter == letter) {
+            if (t != null && standsInMethod(t.kind) && t.outer == outer && t.letter == letter) {
                 number++;
             }
         }
@@ -372,7 +377,8 @@ public final class InnerCaptures {
 
     private boolean hasTypeInMethod(Type owner) {
         for (int i = 0; i < typeCount; i++) {
-            if (standsInMethod(types[i].kind) && types[i].outer == owner) {
+            Type t = types[i];
+            if (t != null && standsInMethod(t.kind) && t.outer == owner) {
                 return true;
             }
         }
@@ -473,10 +479,10 @@ public final class InnerCaptures {
     }
 
     private int findFromLambda(int number, int name) {
-        if (number < 0 || number >= lambdaCount || !isName(name)) {
+        Lambda from = lambdaAt(number);
+        if (from == null || !isName(name)) {
             return BAD;
         }
-        Lambda from = lambdas[number];
         Locals locals = from.home.locals;
         int index = locals.latest(name, from.copies.length);
         if (index == NOT_THERE) {

@@ -22,12 +22,13 @@ public final class FaceTest {
         "int about(int,int)", "int same(int,int)", "long see(int,int)", "int put(int,int,long)",
         "int that(int,int,int)", "long constant(int,int)", "int lambda(int,int)",
         "long seen(int,int)", "int why()", "int count(int)"};
+    private static final Set<String> CONSTANTS = Set.of("BAD", "FULL", "NONE", "TAKEN");
     private static final String[] RULED_OUT = {"throw", "throws", "try", "catch", "synchronized",
         "assert", "protected", "->", "::", "hashCode", "toString\\(\\) \\{", "Exact\\b", "Object\\b",
         "\" \\+", "\\+ \"", "new \\w+\\([^()]*\\) \\{", "static \\{"};
     private static final Due due = new Due();
 
-    public static void main(String[] args) throws IOException {
+    public static void main(String[] args) throws IOException, NoSuchFieldException {
         constants();
         methods();
         nothingElseIsOpen();
@@ -36,11 +37,16 @@ public final class FaceTest {
         due.end();
     }
 
-    private static void constants() {
+    private static void constants() throws NoSuchFieldException {
         due.is("BAD", InnerCaptures.BAD, -1);
         due.is("FULL", InnerCaptures.FULL, -2);
         due.is("NONE", InnerCaptures.NONE, -3);
         due.is("TAKEN", InnerCaptures.TAKEN, -4);
+        for (String name : CONSTANTS) {
+            Field field = InnerCaptures.class.getDeclaredField(name);
+            due.is(name + " is public, static and final", field.getModifiers(), Modifier.PUBLIC | Modifier.STATIC | Modifier.FINAL);
+            due.isTrue(name + " is an int", field.getType() == int.class);
+        }
     }
 
     private static String signature(Method method) {
@@ -63,6 +69,7 @@ public final class FaceTest {
         due.isTrue("the public methods are the document's: " + open, open.equals(new TreeSet<>(List.of(METHODS))));
         for (Method method : InnerCaptures.class.getDeclaredMethods()) {
             boolean isOpen = Modifier.isPublic(method.getModifiers());
+            due.isTrue(signature(method) + " is asked of an object if public", !isOpen || method.getModifiers() == Modifier.PUBLIC);
             due.isTrue(signature(method) + " is public or private", isOpen || Modifier.isPrivate(method.getModifiers()));
             due.isTrue(signature(method) + " has a name of its own", isOpen || !names.contains(method.getName()));
             due.isTrue(signature(method) + " takes at most seven", method.getParameterCount() <= 7);
@@ -70,10 +77,11 @@ public final class FaceTest {
     }
 
     private static void nothingElseIsOpen() {
-        due.isTrue("final", Modifier.isFinal(InnerCaptures.class.getModifiers()));
-        Set<String> constants = Set.of("BAD", "FULL", "NONE", "TAKEN");
+        due.is("the class is public and final", InnerCaptures.class.getModifiers(), Modifier.PUBLIC | Modifier.FINAL);
+        due.isTrue("it has no class above it", InnerCaptures.class.getSuperclass() == Object.class);
+        due.is("nor an interface", InnerCaptures.class.getInterfaces().length, 0);
         for (Field field : InnerCaptures.class.getDeclaredFields()) {
-            due.isTrue(field + " is private", constants.contains(field.getName()) || Modifier.isPrivate(field.getModifiers()));
+            due.isTrue(field + " is private", CONSTANTS.contains(field.getName()) || Modifier.isPrivate(field.getModifiers()));
             due.isTrue(field + " is final if static", !Modifier.isStatic(field.getModifiers()) || Modifier.isFinal(field.getModifiers()));
         }
         Constructor<?>[] constructors = InnerCaptures.class.getDeclaredConstructors();
